@@ -1750,20 +1750,29 @@ public final class WhiskedDuchy {
      * smaller set and one minister more.
      */
     private static final class Rows {
+        private static final int SETS = 128;
+
         private final Told told;
         private final Bowl bowl;
-        private final int[] least = new int[128];
+        private final int[] least = new int[SETS];
+        private final int[] losses = new int[SETS];
+        private final int[] values = new int[SETS];
 
         Rows(Told told, Bowl bowl) {
             this.told = told;
             this.bowl = bowl;
         }
 
+        /** The set of the best row, for all that the others here answer of it. */
         int bestSet() {
             int best = 0;
-            int sets = Math.min(least.length, 1 << told.howMany(MINISTER));
+            int sets = Math.min(SETS, 1 << told.howMany(MINISTER));
             least[0] = 0;
             for (int set = 1; set < sets; set++) {
+                int lowest = Integer.numberOfTrailingZeros(set);
+                int others = set & set - 1;
+                losses[set] = losses[others] + told.item(MINISTER, lowest, LOSS);
+                values[set] = values[others] + told.item(MINISTER, lowest, VALUE);
                 least[set] = leastRowTo(set);
                 if (least[set] != NONE && isBetter(set, best)) {
                     best = set;
@@ -1773,7 +1782,15 @@ public final class WhiskedDuchy {
         }
 
         int leastRowOf(int set) {
-            return set >= 0 && set < least.length ? least[set] : NONE;
+            return set >= 0 && set < SETS ? least[set] : NONE;
+        }
+
+        int valueOf(int set) {
+            return set >= 0 && set < SETS ? values[set] : 0;
+        }
+
+        int standsBehind(int set) {
+            return set >= 0 && set < SETS ? Math.max(0, bowl.stands - losses[set]) : 0;
         }
 
         private int leastRowTo(int set) {
@@ -1782,9 +1799,8 @@ public final class WhiskedDuchy {
             }
             int row = NONE;
             for (int last = 0; last < told.howMany(MINISTER); last++) {
-                int before = leastRowOf(set & ~(1 << last));
-                if ((set >> last & 1) != 0 && before != NONE && canEnd(set, last)) {
-                    int candidate = 10 * before + last;
+                if ((set >> last & 1) != 0 && canEnd(set, last)) {
+                    int candidate = 10 * leastRowOf(set & ~(1 << last)) + last;
                     row = row == NONE ? candidate : Math.min(row, candidate);
                 }
             }
@@ -1792,23 +1808,8 @@ public final class WhiskedDuchy {
         }
 
         private boolean canEnd(int set, int last) {
-            return standsBehind(set & ~(1 << last)) >= told.item(MINISTER, last, NEED);
-        }
-
-        int standsBehind(int set) {
-            return Math.max(0, bowl.stands - sumOf(set, LOSS));
-        }
-
-        int valueOf(int set) {
-            return sumOf(set, VALUE);
-        }
-
-        private int sumOf(int set, int what) {
-            int sum = 0;
-            for (int m = 0; m < told.howMany(MINISTER); m++) {
-                sum += (set >> m & 1) != 0 ? told.item(MINISTER, m, what) : 0;
-            }
-            return sum;
+            int others = set & ~(1 << last);
+            return leastRowOf(others) != NONE && standsBehind(others) >= told.item(MINISTER, last, NEED);
         }
 
         private boolean isBetter(int set, int best) {

@@ -11,6 +11,7 @@ public final class YearsTest {
             byActs(seed * 7919 * 1000003, (int) Math.floorMod(seed, 10L));
         }
         undone();
+        gloryAtMost();
         check.finish();
     }
 
@@ -97,6 +98,19 @@ public final class YearsTest {
             acted.door();
         }
         acted.days(1);
+    }
+
+    private static void gloryAtMost() {
+        WhiskedDuchy duchy = Check.duchy("kw9;mv9n0;mv9n0;mv9n0;mv9n0;mv9n0;mv9n0;mv9n0");
+        int glory = 0;
+        for (int i = 0; i < 16; i++) {
+            int more = duchy.years(60, i);
+            check.due("glory grows", duchy.count(9) > glory || glory == 9999, true);
+            glory = duchy.count(9);
+            check.due("the day", more, 60 * (i + 1));
+        }
+        check.due("9,999 at most", glory, 9999);
+        check.due("that is there", duchy.ahead(9999), 0);
     }
 
     private static void undone() {
