@@ -89,7 +89,7 @@ public final class WhiskedDuchy {
     // ---- texts ----
 
     public int feed(int a, int b, int c, int d, int e) {
-        int more = Tape.told(a) + Tape.told(b) + Tape.told(c) + Tape.told(d) + Tape.told(e);
+        int more = Tape.signsIn(a) + Tape.signsIn(b) + Tape.signsIn(c) + Tape.signsIn(d) + Tape.signsIn(e);
         if (tape.size() + more > Tape.LIMIT) {
             return NONE;
         }
@@ -943,8 +943,8 @@ public final class WhiskedDuchy {
             return size;
         }
 
-        /** How many of the four bytes of a number are told (0 is left out). */
-        static int told(int four) {
+        /** How many of the four bytes of a number are signs (0 is none). */
+        static int signsIn(int four) {
             int many = 0;
             for (int shift = 24; shift >= 0; shift -= 8) {
                 many += (four >>> shift & 255) != 0 ? 1 : 0;
@@ -981,13 +981,9 @@ public final class WhiskedDuchy {
 
         /** The next sign behind blanks, OVER at the end. */
         int look() {
-            for (int i = 0; i < LIMIT && signHere() == ' '; i++) {
+            while (at >= 0 && at < size && at < bytes.length && bytes[at] == ' ') {
                 at++;
             }
-            return signHere();
-        }
-
-        private int signHere() {
             return at >= 0 && at < size && at < bytes.length ? bytes[at] : OVER;
         }
 
@@ -1007,17 +1003,21 @@ public final class WhiskedDuchy {
             return true;
         }
 
-        /** The number that stands next; NONE, if none does or it has too many digits (then it stands at the first of these). */
+        /**
+         * The number that the sign looked at begins; NONE, if it begins none or one of too many digits
+         * (then it stands at the first of these).
+         */
         int number(int mostDigits) {
-            if (!isDigit(look())) {
-                return NONE;
-            }
-            int number = 0;
-            for (int i = 0; i < mostDigits && isDigit(signHere()); i++) {
-                number = 10 * number + signHere() - '0';
+            int number = NONE;
+            for (int i = 0; i < mostDigits && isDigitHere(); i++) {
+                number = 10 * Math.max(0, number) + bytes[at] - '0';
                 at++;
             }
-            return isDigit(signHere()) ? NONE : number;
+            return isDigitHere() ? NONE : number;
+        }
+
+        private boolean isDigitHere() {
+            return at >= 0 && at < size && at < bytes.length && bytes[at] >= '0' && bytes[at] <= '9';
         }
 
         static boolean isDigit(int sign) {
@@ -1194,7 +1194,7 @@ public final class WhiskedDuchy {
         }
 
         private boolean isValueNext(int kind, int number, int what) {
-            int value = tape.number(2);
+            int value = Tape.isDigit(tape.look()) ? tape.number(2) : NONE;
             if (value == NONE) {
                 return false;
             }
@@ -1454,14 +1454,11 @@ public final class WhiskedDuchy {
             this.yolk = yolk;
             this.age = age;
             this.copper = copper;
-            return chosen >= 0 && chosen < codes.length ? worthBy(codes[chosen]) : 0;
-        }
-
-        private int worthBy(int[] code) {
-            boolean isPassedOver = false;
             top = 0;
-            for (int at = 0; at < code.length; at++) {
-                int sign = code[at];
+            boolean isPassedOver = false;
+            int size = chosen >= 0 && chosen < codes.length ? codes[chosen].length : 0;
+            for (int at = 0; at < size; at++) {
+                int sign = codes[chosen][at];
                 if (isPassedOver) {
                     isPassedOver = sign != -';';
                 } else if (sign == -';') {

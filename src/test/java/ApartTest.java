@@ -88,7 +88,10 @@ public final class ApartTest {
         check.due("byTurns(1, 0, 5)", x.byTurns(1, 0, 5), 2);
         check.due("byTurns(0, 1, 21)", x.byTurns(0, 1, 21), 5);
         check.due("the other alone", x.byTurns(0, 1, 30), 8);
+        check.due("the other alone", x.byTurns(0, 1, 28), 8);
         check.due("the first passed over", x.byTurns(2, 1, 15), 3);
+        check.due("the first passed over", x.byTurns(2, 0, 19), 3);
+        check.due("no stroke more than both have", x.byTurns(0, 2, 25), -1);
         check.due("the first passed over", x.byTurns(1, 2, 15), 3);
         check.due("both tired", x.byTurns(0, 2, 24), 4);
         check.due("by none", x.byTurns(0, 2, 25), -1);
@@ -138,6 +141,9 @@ public final class ApartTest {
         rowIs("kw5;mn10v3l2;mn10v3l2", 2, 0, 3, 8);
         rowIs("kw5;mn0v0l0;mn10v3l2", 2, 1, 3, 8);
         rowIs("kw5;mn0v0l0", 2, -1, 0, 10);
+        rowIs("kw5;mn10v3l3;mn10v3l2", 2, 1, 3, 8);
+        rowIs("kw5;mn10v1l1;mn9v2l1;mn10v3l2", 2, 2, 3, 8);
+        rowIs("kw5;mn10v3l2;mn10v1l1;mn9v2l1", 2, 0, 3, 8);
         rowIs("kw5;mn10v2l1;mn9v2l0;mn10v4l1", 2, 12, 6, 9);
         rowIs("kw5;mn10v3l9;mn10v5l3;mn5v5l3;mn10v9l9", 2, 12, 10, 4);
         rowIs("kw5;mn10v1l0;mn10v4l4;mn10v5l9;mn10v5l4", 2, 3, 6, 6);
@@ -163,6 +169,11 @@ public final class ApartTest {
         check.due("in 60", x.lasts(), 60);
         x.strokes(0, 1);
         check.due("not within 60", x.lasts(), -1);
+        x = Check.duchy("sa0;kw1e1;kw6;m");
+        x.strokes(1, 10);
+        x.law(Check.tell(x, 1, "y:1"));
+        x.strokes(0, 1);
+        check.due("61 are not within 60", x.lasts(), -1);
     }
 
     private static void holds() {
@@ -181,6 +192,10 @@ public final class ApartTest {
         x.fold(0);
         x.fold(1);
         check.due("by 8", x.holds(12), 97);
+        x.sugar();
+        check.due("by 7", x.holds(14), 99);
+        check.due("by none", x.holds(15), -1);
+        x.undo();
         check.due("by none", x.holds(13), -1);
         for (int i = 0; i < 9; i++) {
             x.sugar();

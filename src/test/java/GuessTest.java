@@ -81,6 +81,9 @@ public final class GuessTest {
         check.due("half of ten: 5 a stroke", x.probe(0, 22), 5);
         check.due("never half: 0 to 4 give more than 0", x.probe(1, 5), 5);
         check.due("never all", x.probe(1, 99), 1);
+        x.law(Check.tell(x, 1, "y:n=39&y>4?1"));
+        check.due("at the last stroke alone", x.probe(0, 1), 40);
+        x.law(-1);
         x.seen(0, 1, 8, true);
         check.due("of 0 and 1", x.probe(0, 9), 1);
         check.due("of 0 and 1", x.probe(0, 41), 5);

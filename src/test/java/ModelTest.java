@@ -55,8 +55,10 @@ public final class ModelTest {
                 tell(0, kind == 0 ? spoilt(duchyText()) : duchyText());
             } else if (kind < 6) {
                 tell(1, kind == 4 ? spoilt(lawText(60)) : lawText(60));
-            } else if (kind < 50) {
+            } else if (kind < 35) {
                 act();
+            } else if (kind < 65) {
+                ask();
             } else {
                 Method method = face[random.nextInt(face.length)];
                 call(method.getName(), arguments(method, isWild));
@@ -88,6 +90,29 @@ public final class ModelTest {
             case 9: call("days", 1 + random.nextInt(random.nextInt(5) == 0 ? 60 : 3)); break;
             case 10: call("years", 1 + random.nextInt(20), random.nextLong()); break;
             default: call("law", random.nextInt(5) - 1); break;
+        }
+    }
+
+    /** Questions that mostly have an answer. */
+    private static void ask() throws Exception {
+        int cook = random.nextInt(4);
+        int other = random.nextInt(4);
+        int v = random.nextInt(100);
+        switch (random.nextInt(16)) {
+            case 0: call("soonest", cook, v); break;
+            case 1: call("stop", cook, v % 2); break;
+            case 2: call("best", v); break;
+            case 3: case 4: call("byTurns", cook, other, v); break;
+            case 5: case 6: call("row", v % 3); break;
+            case 7: call("holds", random.nextInt(21)); break;
+            case 8: call("seen", cook, 1 + random.nextInt(40), v, random.nextInt(100) > v); break;
+            case 9: call("probe", cook, v); break;
+            case 10: call("game", cook, other, random.nextInt(6), random.nextInt(6), v % 2); break;
+            case 11: call("rests", cook, other, random.nextInt(4) - 1); break;
+            case 12: call("odds", random.nextInt(9), random.nextInt(101), v); break;
+            case 13: call("shares", cook, random.nextInt(1000)); break;
+            case 14: call("ahead", 1 + random.nextInt(random.nextBoolean() ? 200 : 9999)); break;
+            default: call("most", random.nextInt(10)); break;
         }
     }
 
