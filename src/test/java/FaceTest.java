@@ -33,6 +33,11 @@ public final class FaceTest {
             int flags = inside.getModifiers();
             check.due(inside + " is static", Modifier.isStatic(flags), true);
             check.due(inside + " is hidden", Modifier.isPublic(flags) || Modifier.isProtected(flags), false);
+            for (Method method : inside.getDeclaredMethods()) {
+                for (String other : METHODS) {
+                    check.due(inside + " has " + method.getName(), other.contains(" " + method.getName() + "("), false);
+                }
+            }
         }
         check.finish();
     }
