@@ -144,6 +144,7 @@ public final class ApartTest {
         rowIs("kw5;mn10v3l3;mn10v3l2", 2, 1, 3, 8);
         rowIs("kw5;mn10v1l1;mn9v2l1;mn10v3l2", 2, 2, 3, 8);
         rowIs("kw5;mn10v3l2;mn10v1l1;mn9v2l1", 2, 0, 3, 8);
+        rowIs("kw5;mn10v2l1;mn0v1l1;mn10v5l4;mn8v3l3", 2, 21, 6, 5);
         rowIs("kw5;mn10v2l1;mn9v2l0;mn10v4l1", 2, 12, 6, 9);
         rowIs("kw5;mn10v3l9;mn10v5l3;mn5v5l3;mn10v9l9", 2, 12, 10, 4);
         rowIs("kw5;mn10v1l0;mn10v4l4;mn10v5l9;mn10v5l4", 2, 3, 6, 6);
