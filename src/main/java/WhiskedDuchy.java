@@ -229,10 +229,10 @@ public final class WhiskedDuchy {
     private int whisked(int wrist, int stands, int strokes, int yolk) {
         int age = told.item(RULES, 0, AGE);
         int copper = told.item(RULES, 0, COPPER);
-        // The document holds what a LAW gives within -9 .. 9; of the stroke without one it doesn't say so.
-        int more = laws.chosen() == NONE
+        int gives = laws.chosen() == NONE
             ? wrist + 2 * copper - yolk - 3 * (strokes / 10)
-            : within(-9, laws.worth(wrist, stands, strokes, yolk, age, copper), 9);
+            : laws.worth(wrist, stands, strokes, yolk, age, copper);
+        int more = within(-9, gives, 9);
         return within(0, stands + more, STIFFEST_STAND);
     }
 

@@ -295,8 +295,9 @@ final class Model {
             more = wrist + 2 * rules.get('c') - yolk - strokes / 10 * 3;
         } else {
             letters = Map.of('w', wrist, 's', stands, 'n', strokes, 'y', yolk, 'a', rules.get('a'), 'c', rules.get('c'));
-            more = Math.max(-9, Math.min(9, worth(laws.get(held))));
+            more = worth(laws.get(held));
         }
+        more = more > 9 ? 9 : more < -9 ? -9 : more;
         return Math.max(0, Math.min(99, stands + more));
     }
 
