@@ -8,6 +8,7 @@ public final class StrokeTest {
         upperEndFromTheMorning();
         upperEndOfYears();
         lowerEnd();
+        lowerEndOfYears();
         withinTheEnds();
         check.finish();
     }
@@ -74,6 +75,19 @@ public final class StrokeTest {
         check.due("game(0, 1, 5, 5, 0)", x.game(0, 1, 5, 5, 0), 9 / 4 - 5);
         check.due("strokes(0, 2)", x.strokes(0, 2), 81);
         check.due("strokes(1, 9)", x.strokes(1, 9), 0);
+    }
+
+    private static void lowerEndOfYears() {
+        WhiskedDuchy x = Check.duchy("sy9;kw1e40;mn40l0", "y:9");
+        x.strokes(0, 11);
+        x.law(-1);
+        x.draught(0);
+        for (int seed = 0; seed < 20; seed++) {
+            x.years(1, seed);
+            int more = x.log(0, 2) - 11;
+            check.due("behind " + more + " strokes more", x.log(0, 0), Math.max(0, 99 - 9 * more));
+            x.undo();
+        }
     }
 
     private static void withinTheEnds() {
