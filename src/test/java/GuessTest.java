@@ -115,13 +115,20 @@ public final class GuessTest {
     }
 
     private static void restsByGame(WhiskedDuchy duchy, int one, int other) {
+        int[][] ones = new int[6][6];
+        int[][] others = new int[6][6];
+        for (int x = 0; x <= 5; x++) {
+            for (int y = 0; y <= 5; y++) {
+                ones[x][y] = duchy.game(one, other, x, y, 0);
+                others[x][y] = duchy.game(one, other, x, y, 1);
+            }
+        }
         int found = 0;
         for (int x = 0; x <= 5; x++) {
             for (int y = 0; y <= 5; y++) {
                 boolean isRest = true;
                 for (int z = 0; z <= 5; z++) {
-                    isRest &= duchy.game(one, other, z, y, 0) <= duchy.game(one, other, x, y, 0);
-                    isRest &= duchy.game(one, other, x, z, 1) <= duchy.game(one, other, x, y, 1);
+                    isRest &= ones[z][y] <= ones[x][y] && others[x][z] <= others[x][y];
                 }
                 if (isRest) {
                     check.due("rests(" + found + ")", duchy.rests(one, other, found), 10 * x + y);

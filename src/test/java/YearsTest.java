@@ -68,21 +68,21 @@ public final class YearsTest {
         drawn.draught(draughty);
         drawn.strokes(0, 7);
         acted.strokes(0, 7);
-        check.due("years", drawn.years(45, seed), 45);
+        check.due("years", drawn.years(30, seed), 30);
         x = seed;
-        for (int day = 0; day < 45; day++) {
+        for (int day = 0; day < 30; day++) {
             dayByActs(acted, draughty);
         }
         for (int what : new int[] {5, 6, 7, 9, 10, 13}) {
             check.due("by acts: count(" + what + ")", drawn.count(what), acted.count(what));
         }
-        for (int i = 0; i < 45; i++) {
+        for (int i = 0; i < 30; i++) {
             for (int what = 0; what < 3; what++) {
                 check.due("by acts: log", drawn.log(i, what), acted.log(i, what));
             }
         }
-        check.due("acts", drawn.count(14), 40);
-        check.due("the purse", drawn.rule(3), 110);
+        check.due("acts", drawn.count(14), 31);
+        check.due("the purse", drawn.rule(3), 80);
     }
 
     private static void dayByActs(WhiskedDuchy acted, int draughty) {
