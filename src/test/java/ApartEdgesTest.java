@@ -18,6 +18,7 @@ public final class ApartEdgesTest {
         bestOfSeveral();
         turnsOfTwo();
         turnsPassOver();
+        turnsToTheLast();
         turnsOfBothTired();
         rowOfNobody();
         rowAsTheyCanBe();
@@ -235,6 +236,23 @@ public final class ApartEdgesTest {
         check.due("and no more", x.byTurns(1, 0, 23), NONE);
     }
 
+    private static void turnsStrokeByStroke(String text, int... stands) {
+        WhiskedDuchy x = Check.duchy(text);
+        for (int n = 0; n < stands.length; n++) {
+            check.due(text + ", by turns at " + stands[n], x.byTurns(0, 1, stands[n]), n);
+            check.due(text + ", by turns above " + stands[n], x.byTurns(0, 1, stands[n] + 1), n + 1 < stands.length ? n + 1 : NONE);
+        }
+    }
+
+    /** Each whisks just as often as he can, and in his turn. */
+    private static void turnsToTheLast() {
+        turnsStrokeByStroke("kw2e1;kw5e1;m", 0, 2, 7);
+        turnsStrokeByStroke("kw2e2;kw5e5;m", 0, 2, 7, 9, 14, 19, 24, 29);
+        turnsStrokeByStroke("kw2e3;kw5e2;m", 0, 2, 7, 9, 14, 16);
+        turnsStrokeByStroke("kw2e5;kw5e2;m", 0, 2, 7, 9, 14, 16, 18, 20);
+        turnsStrokeByStroke("kw5e1;kw2e3;m", 0, 5, 7, 9, 11);
+    }
+
     private static void turnsOfBothTired() {
         WhiskedDuchy x = Check.duchy("kw2e1;kw5e1;m");
         x.strokes(0, 1);
@@ -287,6 +305,8 @@ public final class ApartEdgesTest {
         rowIs("rather one that leaves more than a lower", Check.standing("ke40;mn10l9v5;mn10l8v5", 10), 1, 5, 2);
         rowIs("then the shortest", Check.standing("ke40;mn10l0v0;mn10l3v5", 10), 1, 5, 7);
         rowIs("shortest, though not the least", Check.standing("ke40;mn10l1v2;mn9l2v3;mn10l3v5", 10), 2, 5, 7);
+        rowIs("shortest, though a longer one is less: 32, not 014",
+            Check.standing("ke40;mn10l1v1;mn9l1v1;mn7l1v1;mn10l3v4;mn8l2v3", 10), 32, 5, 6);
         rowIs("then the least", Check.standing("ke40;mn10l3v5;mn10l3v5;mn10l3v5", 10), 0, 5, 7);
         rowIs("the least of all orders", Check.standing("ke40;mn0;mn0;mn0", 10), 12, 9, 7);
         rowIs("the least of two rows of two", Check.standing("ke40;mn10l3v5;mn7l1v1;mn10l3v5", 10), 1, 6, 6);

@@ -12,6 +12,7 @@ public final class BowlEdgesTest {
         lettersOfALaw();
         lessForEachTen();
         noMoreThanEndurance();
+        eachOfFourTires();
         strokesOneTo40();
         foldsWhereItStandsSo();
         foldIsNoFall();
@@ -140,6 +141,20 @@ public final class BowlEdgesTest {
         gives("y:s<40?1;y:s>40?2;y:s=40?3", 3);
         gives("y:s<41?1", 1);
         gives("y:s>39?1", 1);
+        String[] truths = {"1=2", "1=1"};
+        for (int a = 0; a < 2; a++) {
+            gives("y:!" + truths[a] + "?1", 1 - a);
+            for (int b = 0; b < 2; b++) {
+                gives("y:" + truths[a] + "|" + truths[b] + "?1", a | b);
+                gives("y:" + truths[a] + "&" + truths[b] + "?1", a & b);
+                gives("y:!" + truths[a] + "|" + truths[b] + "?1", 1 - a | b);
+                gives("y:!" + truths[a] + "&" + truths[b] + "?1", 1 - a & b);
+                gives("y:" + truths[a] + "&!" + truths[b] + "?1", a & 1 - b);
+                gives("y:!" + truths[a] + "&!" + truths[b] + "?1", 1 - a & 1 - b);
+                gives("y:!(" + truths[a] + "&" + truths[b] + ")?1", 1 - (a & b));
+                gives("y:!(" + truths[a] + "|" + truths[b] + ")?1", 1 - (a | b));
+            }
+        }
         gives("y:1=1|1=1&1=2?1", 1);
         gives("y:(1=1|1=1)&1=2?1", 0);
         gives("y:!1=2&1=2?1", 0);
@@ -207,6 +222,24 @@ public final class BowlEdgesTest {
             x.days(1);
             check.due("nobody is tired", x.cook(0, 2) + x.cook(1, 2), 0);
             check.due("all of it once more", x.strokes(0, endurance) != NONE, true);
+        }
+    }
+
+    private static void eachOfFourTires() {
+        WhiskedDuchy x = Check.duchy("ke1;ke2;ke3;ke4;m");
+        for (int cook = 0; cook < 4; cook++) {
+            for (int n = 1; n <= cook + 1; n++) {
+                check.due("how many he has left", x.strokes(cook, cook + 3 - n), NONE);
+                check.due("one more", x.strokes(cook, 1) != NONE, true);
+                check.due("how tired", x.cook(cook, 2), n);
+            }
+            check.due("not one more", x.strokes(cook, 1), NONE);
+            check.due("behind he can none", x.behind(cook, 40), x.count(6));
+        }
+        check.due("strokes of all", x.count(7), 10);
+        x.days(1);
+        for (int cook = 0; cook < 4; cook++) {
+            check.due("nobody is tired", x.cook(cook, 2), 0);
         }
     }
 

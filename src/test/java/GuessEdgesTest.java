@@ -10,10 +10,12 @@ public final class GuessEdgesTest {
         seenFrom1To40();
         seenFrom0To99();
         seenFromTheMorningOn();
+        seenOfEachCook();
         fitsYolkFrom0To9();
         fitsRising();
         tryFrom1To40();
         tryLeastApart();
+        tryAmongThoseThatFit();
         gameFrom0To5();
         gameCutBy4();
         gameOfTheTired();
@@ -108,6 +110,20 @@ public final class GuessEdgesTest {
         fitting("yolk as now does not matter", x, 0, 1);
     }
 
+    private static void seenOfEachCook() {
+        WhiskedDuchy x = Check.duchy("kw1;kw3;kw5;kw9;m");
+        x.seen(3, 1, 3, true);
+        fitting("by the last cook", x, 0, 1, 2, 3, 4, 5, 6);
+        x.seen(2, 1, 5, false);
+        fitting("by another", x, 1, 2, 3, 4, 5, 6);
+        x.seen(1, 2, 1, false);
+        fitting("by another", x, 3, 4, 5, 6);
+        x.seen(0, 40, 1, false);
+        fitting("by the first", x, 3, 4, 5, 6);
+        x.seen(3, 2, 10, true);
+        fitting("by the last once more", x, 3, 4);
+    }
+
     private static void fitsYolkFrom0To9() {
         WhiskedDuchy x = Check.duchy("k;m");
         fitting("nothing seen", x, 0, 1, 2, 3, 4, 5, 6, 7, 8, 9);
@@ -167,6 +183,26 @@ public final class GuessEdgesTest {
         x = Check.duchy("k;m", "y:n=2&y=9?1");
         x.seen(0, 40, 1, true);
         check.due("of one alone: the fewest", x.probe(0, 1), 1);
+    }
+
+    private static void tryAmongThoseThatFit() {
+        WhiskedDuchy x = Check.duchy("k;kw9;m", "y:n=1&y=9?5;y:n=2&y<5?5;y:n=3&y=8?5");
+        check.due("among all: 0 to 4 against 5 to 9", x.probe(0, 5), 3);
+        check.due("once more", x.probe(0, 5), 3);
+        x.seen(0, 3, 5, false);
+        check.due("among 5 to 8: none against four, then one against three", x.probe(0, 5), 4);
+        x.seen(0, 4, 5, true);
+        check.due("8 alone fits", x.fits(0), 8);
+        check.due("of one alone: the fewest", x.probe(0, 5), 1);
+        x = Check.duchy("k;m", "y:n=1&y=9?5;y:n=2&y=0?5");
+        check.due("9 against the others, then 0 and 9", x.probe(0, 5), 3);
+        x.seen(0, 3, 5, true);
+        check.due("9 against 0", x.probe(0, 5), 2);
+        x = Check.duchy("kw5;kw9;m");
+        check.due("by wrist 5", x.probe(0, 5), 5);
+        check.due("by wrist 9", x.probe(1, 5), 1);
+        check.due("by wrist 9: 5 a stroke", x.probe(1, 45), 9);
+        check.due("by wrist 5 again", x.probe(0, 5), 5);
     }
 
     // ---- games ----
@@ -302,17 +338,24 @@ public final class GuessEdgesTest {
     }
 
     private static void oddsOfEachPartCut() {
-        WhiskedDuchy x = Check.standing("sa0;ke40;m", 99);
-        long closed = ALL_PARTS;
-        long open = ALL_PARTS;
-        for (int n = 1; n <= 8; n++) {
-            closed -= closed * 33 / 100;
-            open = open * 33 / 100;
-            check.due("no door in " + n, x.odds(n, 33, 99 - n), closed);
-            if (lowest(n) > 0) {
-                check.due("all but those of doors alone", ALL_PARTS - x.odds(n, 33, lowest(n) + 1), open);
+        for (int chance : new int[] {0, 1, 7, 33, 50, 67, 93, 99, 100}) {
+            WhiskedDuchy x = Check.standing("sa0;ke40;m", 99);
+            long closed = ALL_PARTS;
+            long open = ALL_PARTS;
+            for (int n = 1; n <= 8; n++) {
+                closed -= closed * chance / 100;
+                open = open * chance / 100;
+                check.due("no door in " + n + " by " + chance, x.odds(n, chance, 99 - n), closed);
+                check.due("none stands higher in " + n + " by " + chance, x.odds(n, chance, 99 - n + 1), 0);
+                if (lowest(n) > 0) {
+                    check.due("all but doors alone in " + n + " by " + chance,
+                        ALL_PARTS - x.odds(n, chance, lowest(n) + 1), open);
+                }
             }
         }
+        WhiskedDuchy x = Check.standing("sa0;ke40;m", 99);
+        check.due("the last part of all is left closed", x.odds(8, 99, 91), 1);
+        check.due("no other run stands so high", x.odds(8, 99, 46), 1);
     }
 
     /** How it stands from 99 behind so many doors, each with an hour behind it. */
@@ -364,6 +407,10 @@ public final class GuessEdgesTest {
         x = Check.duchy("k;mw0v0n0");
         for (int what = 0; what < 5; what++) {
             check.due("the only one: " + what, x.most(what), 0);
+        }
+        x = Check.duchy("kw5e5;kw4e4;kw1e1;mw3v3n3;mw2v2n2;mw1v1n1");
+        for (int what = 0; what < 5; what++) {
+            check.due("the first: " + what, x.most(what), 0);
         }
         x = Check.duchy("kw8;kw8;m");
         x.practise(1);

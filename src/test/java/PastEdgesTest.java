@@ -23,6 +23,7 @@ public final class PastEdgesTest {
         imageOnTheLastDay();
         logOfAnImage();
         anotherDuchy();
+        anotherSmallerDuchy();
         countsOfNothing();
         check.finish();
     }
@@ -470,6 +471,53 @@ public final class PastEdgesTest {
         check.due("no image of it", x.back(), NONE);
         check.due("no act of it", x.count(14), 0);
         check.due("all yolk fits", x.fits(NONE), 10);
+    }
+
+    private static List<String> askedOf(WhiskedDuchy x) {
+        List<String> asked = new ArrayList<>();
+        for (int v = 0; v < 100; v += 9) {
+            asked.add("best(" + v + ") " + x.best(v));
+        }
+        for (int cook = 0; cook < 4; cook++) {
+            asked.add("soonest(" + cook + ", 9) " + x.soonest(cook, 9));
+            asked.add("shares(" + cook + ", 999) " + x.shares(cook, 999));
+            asked.add("byTurns(0, " + cook + ", 30) " + x.byTurns(0, cook, 30));
+            asked.add("rests(0, " + cook + ", NONE) " + x.rests(0, cook, NONE));
+            asked.add("probe(" + cook + ", 20) " + x.probe(cook, 20));
+        }
+        asked.add("lasts() " + x.lasts());
+        asked.add("holds(9) " + x.holds(9));
+        asked.add("odds(8, 33, 2) " + x.odds(8, 33, 2));
+        asked.addAll(Whole.of(x, -1));
+        return asked;
+    }
+
+    /** Nothing of a duchy with all places taken is found in a smaller one behind it. */
+    private static void anotherSmallerDuchy() {
+        for (String small : new String[] {"kw2e9;mn5v1", "ke3;kw1e2;mv0n1;mn0l0v1w1", "s;k;k;k;m;m;m;m;m;m"}) {
+            WhiskedDuchy x = Check.duchy("sa9y9c1p99" + ";kw9e40".repeat(4) + ";mw9v9n0l9".repeat(7));
+            for (int cook = 0; cook < 4; cook++) {
+                x.strokes(cook, 2 + cook);
+                x.seen(cook, 40, 50, true);
+            }
+            for (int m = 0; m < 7; m++) {
+                x.fold(m);
+            }
+            x.row(0);
+            x.probe(3, 50);
+            x.rests(2, 3, NONE);
+            x.days(3);
+            x.strokes(3, 40);
+            x.image();
+            Check.tell(x, 0, small);
+            WhiskedDuchy fresh = Check.duchy(small);
+            x.strokes(0, 3);
+            fresh.strokes(0, 3);
+            check.due("years", x.years(3, 5), fresh.years(3, 5));
+            x.strokes(0, 2);
+            fresh.strokes(0, 2);
+            alike(small + " behind another one", askedOf(x), askedOf(fresh));
+        }
     }
 
     private static void countsOfNothing() {

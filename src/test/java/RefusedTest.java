@@ -446,6 +446,7 @@ public final class RefusedTest {
             leaves("log(" + i + ", 2) of 60", () -> onDay(61), x -> x.log(i, 2), NONE);
         }
         for (int what : Check.outside(0, 2)) {
+            leaves("log(0, " + what + ")", RefusedTest::busy, x -> x.log(0, what), NONE);
             leaves("log(1, " + what + ")", RefusedTest::busy, x -> x.log(1, what), NONE);
         }
     }

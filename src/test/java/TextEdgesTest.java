@@ -25,9 +25,11 @@ public final class TextEdgesTest {
         blanks();
         longestTexts();
         fourLaws();
+        lawsWithoutADuchy();
         feedOfTwentyBytes();
         feedUpTo240();
         endOfTape();
+        nothingBehindTheEnd();
         textEmptiesTheTape();
         check.finish();
     }
@@ -93,6 +95,7 @@ public final class TextEdgesTest {
         check.due("count(1)", x.count(1), 4);
         check.due("the last cook", x.cook(3, 0), 4);
         check.due("the last minister", x.minister(6, 1), 7);
+        fault(0, full + ";", full.length() + 1);
         fault(0, full + ";s", full.length() + 1);
         fault(0, full + ";k", full.length() + 1);
         fault(0, full + ";m", full.length() + 1);
@@ -341,6 +344,16 @@ public final class TextEdgesTest {
             }
             fault(1, "y:1=" + sum("[".repeat(deep)) + "?1", deep == 6 ? NONE : 10);
             fault(1, "y:1=1?" + sum("[".repeat(deep)), deep == 6 ? NONE : 12);
+            for (String sign : new String[] {"[", "(", "!"}) {
+                String unit = condition(sign.repeat(deep));
+                fault(1, "y:1=1&" + unit + "?1", deep == 6 ? NONE : 12);
+                fault(1, "y:1=1|" + unit + "?1", deep == 6 ? NONE : 12);
+                fault(1, "y:!1=1&" + unit + "?1", deep == 6 ? NONE : 13);
+                fault(1, "y:(1=1)|" + unit + "?1", deep == 6 ? NONE : 14);
+                fault(1, "y:1;y:" + unit + "?1", deep == 6 ? NONE : 12);
+            }
+            fault(1, "y:1+" + sum("[".repeat(deep)), deep == 6 ? NONE : 10);
+            fault(1, "y:1*" + sum("[".repeat(deep)), deep == 6 ? NONE : 10);
             fault(1, "y:" + sum("[".repeat(deep)), deep == 6 ? NONE : 8);
         }
     }
@@ -429,6 +442,23 @@ public final class TextEdgesTest {
         check.due("a fifth behind another duchy", x.text(1), NONE);
     }
 
+    private static void lawsWithoutADuchy() {
+        WhiskedDuchy x = new WhiskedDuchy();
+        check.due("law(NONE) of none", x.law(NONE), true);
+        check.due("law(0) of none", x.law(0), false);
+        check.due("a law", Check.tell(x, 1, "y:7"), 0);
+        check.due("law(0)", x.law(0), true);
+        check.due("it holds", x.count(4), 0);
+        check.due("law(1)", x.law(1), false);
+        check.due("law(-2)", x.law(-2), false);
+        check.due("it still holds", x.count(4), 0);
+        Check.tell(x, 0, "k;m");
+        check.due("by it", x.strokes(0, 1), 7);
+        check.due("law(NONE)", x.law(NONE), true);
+        check.due("none holds", x.count(4), NONE);
+        check.due("by none", x.strokes(0, 1), 11);
+    }
+
     private static void feedOfTwentyBytes() {
         WhiskedDuchy x = new WhiskedDuchy();
         String text = "kw5e30;mv8n10l0w2;kw";
@@ -479,6 +509,33 @@ public final class TextEdgesTest {
         check.due("more behind these", x.text(0), 2);
         check.due("end(0)", x.end(0), true);
         check.due("the last minister", x.minister(1, 1), 9);
+    }
+
+    /** What was cut off the tape, or taken by text, is not read any more. */
+    private static void nothingBehindTheEnd() {
+        for (String cut : new String[] {" ", "5", ";m", "w", "0 ", "   "}) {
+            WhiskedDuchy x = new WhiskedDuchy();
+            Check.feed(x, "k;m" + cut);
+            x.end(3);
+            check.due("no fault without '" + cut + "'", x.fault(0), NONE);
+            x.end(2);
+            check.due("too early without it", x.fault(0), 2);
+            x.end(1);
+            check.due("too early without it", x.fault(0), 1);
+            x.end(0);
+            check.due("too early without it", x.fault(0), 0);
+            Check.feed(x, "k;mv1" + cut);
+            x.end(5);
+            check.due("one minister", x.text(0), 1);
+            check.due("of one digit", x.minister(0, 1), 1);
+            Check.feed(x, " ".repeat(40));
+            x.end(0);
+            Check.feed(x, "y:w+");
+            check.due("too early", x.fault(1), 4);
+            x.end(3);
+            check.due("a law", x.text(1), 0);
+            check.due("too early", x.fault(1), 0);
+        }
     }
 
     private static void textEmptiesTheTape() {
