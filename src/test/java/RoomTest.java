@@ -76,7 +76,7 @@ public final class RoomTest {
         answered(x.text(0));
     }
 
-    /** As long as one can be, and each of its bytes but two a sign of its own. */
+    /** 239 bytes of the 240 that the tape has, each but two a sign of its own. */
     private void tellLaw() {
         int four = '1' << 24 | '+' << 16 | 'w' << 8 | '-';
         answered(x.feed('y' << 24 | ':' << 16 | '1' << 8 | '-', four, four, four, four));
